@@ -5,6 +5,8 @@ final class AheadBounds {
     /** From WEAR 0 it surely goes, each day at 1 or 2 costs 50. */
     private static final String FRAIL = "N3S015S025C150C250";
     private static final String BELL = "N2S015K19";
+    /** WEAR 1 holds or breaks by halves; BROKEN costs 50 a day, and knocks by 9 tenths. WEAR 0 is of no use. */
+    private static final String HALVES = "N3S125C099C250K29M0107";
 
     private AheadBounds() {
     }
@@ -16,9 +18,11 @@ final class AheadBounds {
         planAct();
         unseenRefused();
         unseen();
+        unseenDays();
         unseenAct();
         two();
         whom();
+        askedAgain();
     }
 
     private static void planRefused() {
@@ -59,6 +63,13 @@ final class AheadBounds {
         Bounds.promise(27, "A PLAN where there is no MENDING");
         Bounds.fraction(Bounds.with(FRAIL), (y, upper) -> y.plan(0, 0, 8, 1, 0, upper), 350, 1);
         Bounds.fraction(new MendedOrNew(), (y, upper) -> y.plan(2, 1, 8, 8, 9, upper), 0, 1);
+        Bounds.promise(27, "A PLAN for a MACHINE of eight WEARS: from each, and by a MENDING to the last but BROKEN");
+        MendedOrNew eight = Bounds.with("N8C799M0609", "N8C799");
+        for (int wear = 0; wear < 8; wear++) {
+            int from = wear;
+            Bounds.fraction(eight, (y, upper) -> y.plan(0, from, 8, 1, 0, upper), from == 7 ? 9 : 0, 1);
+            Bounds.fraction(eight, (y, upper) -> y.plan(1, from, 8, 1, 0, upper), from == 7 ? 792 : 0, 1);
+        }
         Bounds.promise(27, "The least that it costs in the mean, in least terms; the most there may be");
         Bounds.fraction(Bounds.with(Bounds.PUMP), (y, upper) -> y.plan(0, 2, 2, 1, 0, upper), 13, 2);
         Bounds.fraction(Bounds.with("N2C099C199M0099"), (y, upper) -> y.plan(0, 1, 8, 1, 9, upper), 792, 1);
@@ -180,6 +191,66 @@ final class AheadBounds {
         Bounds.fraction(looked, (y, upper) -> y.unseen(1, 1, upper), 5, 1);
     }
 
+    /** At WEAR 1 for sure, or BROKEN for sure. */
+    private static MendedOrNew halves(String text, boolean broken) {
+        MendedOrNew x = Bounds.with(text);
+        Bounds.due(x.mend(0, 0), 1);
+        if (broken) {
+            Bounds.days(x, 0, 1);
+            Bounds.due(x.hear(0, true), 1);
+            Bounds.weights(x, 0, 0, 0, 1);
+        }
+        return x;
+    }
+
+    /** A DAY behind which no knock was heard. */
+    private static MendedOrNew quiet(String text) {
+        MendedOrNew x = halves(text, false);
+        Bounds.days(x, 0, 1);
+        Bounds.due(x.hear(0, false), 1);
+        Bounds.weights(x, 0, 0, 10, 1);
+        return x;
+    }
+
+    private static void unseenDays() {
+        Bounds.promise(29, "UNSEEN for some DAYS (1 to 3), by a MENDING: one, two, three");
+        // BROKEN by 1 of 11 where no knock was heard: 45/100 * 7 + 55/100 * 50/11 behind the first day
+        Bounds.fraction(halves(HALVES, false), (x, upper) -> x.unseen(0, 1, upper), 0, 1);
+        Bounds.fraction(halves(HALVES, false), (x, upper) -> x.unseen(0, 2, upper), 113, 20);
+        Bounds.fraction(halves(HALVES, false), (x, upper) -> x.unseen(0, 3, upper), 4633, 400);
+        Bounds.fraction(halves(HALVES, true), (x, upper) -> x.unseen(0, 1, upper), 7, 1);
+        Bounds.fraction(halves(HALVES, true), (x, upper) -> x.unseen(0, 2, upper), 253, 20);
+        Bounds.fraction(halves(HALVES, true), (x, upper) -> x.unseen(0, 3, upper), 7 * 400 + 4633, 400);
+        Bounds.promise(29, "UNSEEN for some DAYS (1 to 3), by a look for 1: one, two, three");
+        String text = HALVES + "L1";
+        Bounds.fraction(halves(text, false), (x, upper) -> x.unseen(0, 1, upper), 0, 1);
+        Bounds.fraction(halves(text, false), (x, upper) -> x.unseen(0, 2, upper), 81, 20);
+        Bounds.fraction(halves(text, false), (x, upper) -> x.unseen(0, 3, upper), 81, 10);
+        Bounds.fraction(halves(text, true), (x, upper) -> x.unseen(0, 3, upper), 151, 10);
+        Bounds.promise(29, "a look, by which the WEAR is seen: WEAR 0, at which a day costs, too");
+        MendedOrNew seen = Bounds.with("N2S015C004C120M0005L0", "N2C005L0");
+        Bounds.days(seen, 0, 1);
+        Bounds.fraction(seen, (x, upper) -> x.unseen(0, 1, upper), 13, 2);
+        Bounds.due(seen.unseenAct(0, 1), 5);
+        Bounds.fraction(seen, (x, upper) -> x.unseen(1, 3, upper), 15, 1);
+        Bounds.promise(29, "UNSEEN for a MACHINE of eight WEARS: a look for 0 at the last two, and a MENDING to the last but BROKEN");
+        MendedOrNew eight = Bounds.with("N8S065S075C620C799M1507L0");
+        Bounds.days(eight, 0, 1);
+        Bounds.fraction(eight, (x, upper) -> x.unseen(0, 1, upper), 7, 1);
+        Bounds.due(eight.unseenAct(0, 1), 2);
+        Bounds.promise(30, "its first ACT, for one DAY, two, three");
+        for (int days = 1; days <= 3; days++) {
+            Bounds.due(halves(text, false).unseenAct(0, days), 0);
+            Bounds.due(halves(text, true).unseenAct(0, days), 1);
+            Bounds.due(quiet(text).unseenAct(0, days), 5);
+        }
+        Bounds.promise(29, "by THE THOUGHT: BROKEN by 1 of 11, and a look; or none can be had");
+        Bounds.fraction(quiet(text), (x, upper) -> x.unseen(0, 1, upper), 18, 11);
+        Bounds.fraction(quiet(text), (x, upper) -> x.unseen(0, 2, upper), 1251, 220);
+        Bounds.fraction(quiet(HALVES), (x, upper) -> x.unseen(0, 1, upper), 50, 11);
+        Bounds.fraction(quiet(HALVES), (x, upper) -> x.unseen(0, 2, upper), 589, 55);
+    }
+
     private static void unseenAct() {
         Bounds.promise(30, "UNKNOWN: there is no such MACHINE");
         Bounds.range(SHOP, 0, 2, U, (x, v) -> x.unseenAct(v, 1));
@@ -248,6 +319,26 @@ final class AheadBounds {
         MendedOrNew pump = Bounds.with(Bounds.PUMP);
         Bounds.fraction(pump, (y, upper) -> y.two(0, 0, 0, 2, 3, upper), 129, 20);
         Bounds.fraction(pump, (y, upper) -> y.two(0, 2, 0, 0, 3, upper), 129, 20);
+    }
+
+    /** What was asked before leaves nothing behind. */
+    private static void askedAgain() {
+        MendedOrNew x = Bounds.with("N2S015C005C150M0007L1", "N8S011C003C799");
+        for (int i = 0; i < 3; i++) {
+            Bounds.promise(27, "The least that it costs: asked again, and behind longer ones");
+            Bounds.fraction(x, (y, upper) -> y.plan(0, 0, 1, 1, 0, upper), 5, 1);
+            Bounds.due(x.plan(0, 1, 8, 3, 1, true) > 0 ? 1 : 0, 1);
+            Bounds.promise(29, "The least in the mean: asked again, and behind longer ones");
+            Bounds.fraction(x, (y, upper) -> y.unseen(0, 1, upper), 5, 1);
+            Bounds.due(x.unseen(1, 3, true) > 0 ? 1 : 0, 1);
+            Bounds.promise(31, "The least that some DAYS cost: asked again, and behind longer ones");
+            Bounds.fraction(x, (y, upper) -> y.two(0, 0, 1, 0, 1, upper), 3, 1);
+            Bounds.fraction(x, (y, upper) -> y.two(0, 0, 0, 0, 1, upper), 5, 1);
+            Bounds.fraction(x, (y, upper) -> y.two(0, 1, 0, 1, 6, upper), 300, 1);
+            Bounds.promise(32, "Whom to run first: asked again, and behind others");
+            Bounds.due(x.whom(0, 0, 1, 0, 1), 1);
+            Bounds.due(x.whom(1, 0, 0, 0, 6), 0);
+        }
     }
 
     private static void whom() {

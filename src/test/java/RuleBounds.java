@@ -140,11 +140,21 @@ final class RuleBounds {
         x = Bounds.with("N3S015S025C010M0005");
         Bounds.due(x.put(0, 0, 6), 2);
         Bounds.fraction(x, (y, upper) -> y.cost(0, 0, upper), 15, 1);
+        Bounds.promise(20, "each morning its ACT is done: also at WEAR 0, to which another MENDING leads");
+        // from 2 it is brought to 0 for a day, from 0 to 1 at once: each WEAR on one morning of three
+        x = Bounds.with("N3S125C009C299M0004M1102");
+        Bounds.due(x.put(0, 0, 2 * 25 + 1), 2);
+        Bounds.fraction(x, (y, upper) -> y.cost(0, 0, upper), 5, 1);
         Bounds.promise(20, "THE COST, least and greatest");
         Bounds.fraction(new MendedOrNew(), (y, upper) -> y.cost(0, 0, upper), 0, 1);
         x = Bounds.with("N2C099M0099");
         x.rule(3, 0, 1);
         Bounds.fraction(x, (y, upper) -> y.cost(0, 3, upper), 198, 1);
+        Bounds.promise(20, "THE COST of what goes by one tenth alone, by nine");
+        x = Bounds.with("N2S011C199M0005", "N2S019C199M0005");
+        x.rule(0, 1, 1);
+        Bounds.fraction(x, (y, upper) -> y.cost(0, 0, upper), 1, 2);
+        Bounds.fraction(x, (y, upper) -> y.cost(1, 0, upper), 9, 2);
         Bounds.promise(20, "THE COST of eight WEARS, in least terms");
         x = Bounds.with(SLOW);
         Bounds.due(x.put(0, 1, 4), 1);
@@ -237,6 +247,19 @@ final class RuleBounds {
         Bounds.due(x.make(0), 3);
         Bounds.due(x.best(0), 25);
         Bounds.due(x.best(1), 0);
+        // a dearer one, one without MENDINGS, one of which none is told
+        Bounds.type(x, "N2S015C150M1020");
+        Bounds.due(x.make(0), 2);
+        Bounds.due(x.best(0), 2);
+        Bounds.fraction(x, (y, upper) -> y.bestCost(0, upper), 10, 1);
+        Bounds.type(x, "N2S015C199");
+        Bounds.due(x.make(0), 2);
+        Bounds.due(x.best(0), 0);
+        Bounds.fraction(x, (y, upper) -> y.bestCost(0, upper), 99, 1);
+        Bounds.type(x, FORK);
+        Bounds.due(x.make(0), 3);
+        Bounds.due(x.best(0), NO);
+        Bounds.fraction(x, (y, upper) -> y.bestCost(0, upper), NO, NO);
     }
 
     private static MendedOrNew shopWithMachine(String text) {
