@@ -112,6 +112,11 @@ final class LogBounds {
         Bounds.refused(() -> shopWithRows(rows), y -> y.read(1), U);
         rows[14] = 1;
         Bounds.refused(() -> shopWithRows(rows), y -> y.read(1), S);
+        Bounds.promise(35, "1 a DAY and a knock: in one row, the DAY is refused (FULL) ahead of the knock (STATE)");
+        int[] both = Bounds.same(0, 16);
+        both[15] = 1;
+        Bounds.refused(() -> shopWithRows(both), y -> y.read(1), F);
+        Bounds.refused(() -> shopWithRows(both), y -> y.late(1, 1, 100), F);
         Bounds.promise(35, "UNKNOWN: machine, ahead of what a row is refused for");
         Bounds.refused(() -> shopWithRows(1), y -> y.read(3), U);
     }
