@@ -1,4 +1,5 @@
 import java.lang.reflect.Constructor;
+import java.lang.reflect.Field;
 import java.lang.reflect.Method;
 import java.lang.reflect.Modifier;
 import java.nio.file.Files;
@@ -22,6 +23,8 @@ public final class LanguageTest {
         "int unseenAct(int,int)", "long two(int,int,int,int,int,boolean)", "int whom(int,int,int,int,int)",
         "int log(int)", "int unlog()", "int read(int)", "int late(int,int,int)", "int keep(int)", "int again(int)",
         "int count(int)"};
+    private static final String[] CONSTANTS = {"public static final int UNKNOWN", "public static final int OUTSIDE",
+        "public static final int STATE", "public static final int FULL", "public static final int NONE"};
     private static int wrong;
 
     private static void check(boolean right, String what) {
@@ -51,6 +54,13 @@ public final class LanguageTest {
             }
         }
         check(face.equals(new TreeSet<>(Arrays.asList(FACE))), "the methods are not those of the face: " + face);
+        TreeSet<String> open = new TreeSet<>();
+        for (Field f : c.getDeclaredFields()) {
+            if (!Modifier.isPrivate(f.getModifiers())) {
+                open.add(Modifier.toString(f.getModifiers()) + " " + f.getType() + " " + f.getName());
+            }
+        }
+        check(open.equals(new TreeSet<>(Arrays.asList(CONSTANTS))), "the constants are not those of the face: " + open);
         for (Constructor<?> k : c.getDeclaredConstructors()) {
             check(Modifier.isPublic(k.getModifiers()) && k.getParameterCount() == 0, "the constructor is " + k);
         }
